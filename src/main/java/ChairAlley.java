@@ -1077,7 +1077,9 @@ public final class ChairAlley {
                 stairsAt[c] = other.stairsAt[c];
                 held[c] = other.held[c];
             }
-            System.arraycopy(other.met, 0, met, 0, MET_KEPT * MET_PARTS);
+            for (int i = 0; i < meetings * MET_PARTS && i < met.length; i++) {
+                met[i] = other.met[i];
+            }
         }
 
         void drawStarts(int seed) {
