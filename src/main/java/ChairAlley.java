@@ -294,7 +294,7 @@ public final class ChairAlley {
         walk.takeOverAnew(world.state);
         walk.measureWays();
         int bits = 0;
-        for (int c = 0; c < world.land.chairs; c++) {
+        for (int c = 0; c < world.land.chairs && c < CHAIRS; c++) {
             walk.takeOverAnew(world.state);
             walk.s.takeAway(c);
             if (!walk.hasEarlyMeeting()) {
@@ -388,7 +388,7 @@ public final class ChairAlley {
         walk.measureWays();
         walk.goTill(MINUTES);
         int most = NONE;
-        for (int c = 0; c < world.land.chairs; c++) {
+        for (int c = 0; c < world.land.chairs && c < CHAIRS; c++) {
             if (most == NONE || walk.s.waits[c] > walk.s.waits[most]) {
                 most = c;
             }
@@ -479,7 +479,7 @@ public final class ChairAlley {
             return NONE;
         }
         int found = 0;
-        for (int c = 0; c < world.land.chairs; c++) {
+        for (int c = 0; c < world.land.chairs && c < CHAIRS; c++) {
             if (world.sentence.isTrueOf(world.land, world.state, c)) {
                 if (found == k) {
                     return c;
@@ -1451,6 +1451,9 @@ public final class ChairAlley {
         }
 
         private void spread(int[] lanes, int to, int base) {
+            if (!land.isCell(to) || base < 0 || base > (CHAIRS - 1) * CELLS) {
+                return;
+            }
             for (int dir = 0; dir < DIRS; dir++) {
                 int at = land.cellBeside(to, (dir + 2) % DIRS);
                 if (!land.isCell(at) || land.isMarked(at, WALL) || land.target(lanes, at, dir) != to) {
