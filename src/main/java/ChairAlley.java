@@ -1122,7 +1122,7 @@ public final class ChairAlley {
             return key * CHAIRS + (CHAIRS - 1 - c);
         }
 
-        /** What a WORD counts of a CHAIR now. */
+        /** What a WORD counts of a CHAIR now; PLACE, which is left, is the CHAIR's own number. */
         int numberOf(Land land, int word, int c) {
             if (c < 0 || c >= CHAIRS) {
                 return NONE;
@@ -1133,7 +1133,7 @@ public final class ChairAlley {
                 case COME: return came[c];
                 case BACKS: return backs[c];
                 case WAITS: return waits[c];
-                default: return at[c];
+                default: return c;
             }
         }
 
@@ -1486,6 +1486,8 @@ public final class ChairAlley {
         final Ways ways;
         final State s = new State();
         final int[] sorted = new int[CHAIRS];
+        /** The place of each CHAIR in that order, which stays for the whole MINUTE. */
+        final int[] turn = new int[CHAIRS];
         final long[] keys = new long[CHAIRS];
         final boolean[] pushed = new boolean[CHAIRS];
         /** Nothing changed in the latest MINUTE, and nothing is to change by time alone. */
@@ -1535,6 +1537,9 @@ public final class ChairAlley {
             }
             sortByPrecedence();
             for (int i = 0; i < land.chairs && i < CHAIRS; i++) {
+                noteTurn(sorted[i], i);
+            }
+            for (int i = 0; i < land.chairs && i < CHAIRS; i++) {
                 act(sorted[i]);
             }
             for (int c = 0; c < land.chairs && c < CHAIRS; c++) {
@@ -1543,17 +1548,26 @@ public final class ChairAlley {
             s.minute++;
         }
 
+        private void noteTurn(int c, int i) {
+            if (c >= 0 && c < CHAIRS) {
+                turn[c] = i;
+            }
+        }
+
         private void comeOut(int c) {
             if (c < 0 || c >= CHAIRS || s.at[c] != NONE || s.there[c] != NONE) {
                 return;
             }
             if (s.start[c] > s.minute) {
                 still = false;
+            } else if (land.setsOut[c] == land.bound[c]) {
+                // It takes no place on the land, so it needs no ROOM.
+                still = false;
+                s.there[c] = s.minute;
             } else if (hasRoom(land.setsOut[c])) {
                 still = false;
                 s.at[c] = land.setsOut[c];
                 s.from[c] = NONE;
-                leaveIfThere(c);
             }
         }
 
@@ -1591,10 +1605,13 @@ public final class ChairAlley {
         }
 
         private boolean canBePushed(int other, int by) {
-            if (other < 0 || other >= CHAIRS || pushed[other] || s.from[other] == NONE) {
+            if (other < 0 || other >= CHAIRS || by < 0 || by >= CHAIRS) {
                 return false;
             }
-            return s.precedence(land, other) < s.precedence(land, by) && hasRoom(s.from[other]);
+            if (pushed[other] || s.from[other] == NONE) {
+                return false;
+            }
+            return turn[other] > turn[by] && hasRoom(s.from[other]);
         }
 
         private boolean isBoundFor(int c, int cell) {
@@ -1636,8 +1653,7 @@ public final class ChairAlley {
         private int latestOn(int cell) {
             int latest = NONE;
             for (int c = 0; c < land.chairs && c < CHAIRS; c++) {
-                if (s.at[c] == cell
-                        && (latest == NONE || s.precedence(land, c) < s.precedence(land, latest))) {
+                if (s.at[c] == cell && (latest == NONE || turn[c] > turn[latest])) {
                     latest = c;
                 }
             }

@@ -463,11 +463,23 @@ public final class CounselTest {
 
     private static void saidOfPlace() {
         Check k = new Check("33", "land 5 5;chair a 0 0 0 0 4 0;chair b 4 4 0 0 0 4;chair c 1 1 0 0 1 1;");
+        dueSaidOfPlace(k);
+        // a is on 1, b on 43, c is THERE: the CHAIR's number is told, not the CELL's.
         k.x.on(1);
-        dueSaid(k, "place=1", 0);
-        dueSaid(k, "place>1", 1);
-        dueSaid(k, "place=43", 1);
-        // Who is nowhere is at NONE, which is below all.
-        dueSaid(k, "place<1", 2);
+        dueSaidOfPlace(k);
+        k.x.on(4);
+        dueSaidOfPlace(k);
+    }
+
+    private static void dueSaidOfPlace(Check k) {
+        dueSaid(k, "place=0", 0);
+        dueSaid(k, "place=1", 1);
+        dueSaid(k, "place=2", 2);
+        dueSaid(k, "place>0", 1, 2);
+        dueSaid(k, "place<2", 0, 1);
+        dueSaid(k, "place<1", 0);
+        dueSaid(k, "place>2");
+        dueSaid(k, "place=43");
+        dueSaid(k, "not place=1 and place<999", 0, 2);
     }
 }

@@ -12,6 +12,8 @@ public final class MinutesTest {
         order();
         orderByCome();
         startsAndRoom();
+        thereAtOnce();
+        laterOfTwo();
         aPush();
         noPush();
         pushesOfTwo();
@@ -144,18 +146,16 @@ public final class MinutesTest {
         Check k = new Check("11", NARROW + "chair a 0 0 0 0 4 0;chair b 0 0 9 9 3 0;start b 1;chair c 1 0 0 0 1 0;start c 1;");
         k.x.on(1);
         k.dueNow(1, 1, 0, 0, 0, 0);
-        // b comes to 0; on 1 is a, so there is no ROOM for c, though it is there already where it is bound.
+        // b comes to 0; on 1 is a, but c, which is there already where it is bound, needs no ROOM.
         k.x.on(1);
         k.dueChair(0, 0, 2);
         k.dueChair(1, 0, 1);
-        k.dueChair(2, 9, -1);
+        k.dueChair(2, 9, 1);
         k.dueChair(2, 0, -1);
-        k.dueNow(2, 2, 0, 0, 0, 0);
+        k.dueNow(2, 2, 1, 0, 0, 0);
         k.x.on(1);
-        k.dueChair(2, 9, -1);
         k.dueChair(1, 0, 2);
         k.x.on(1);
-        k.dueChair(2, 9, 3);
         k.dueNow(4, 0, 3);
         k.dueChair(0, 9, 3);
         k.dueChair(1, 9, 3);
@@ -164,6 +164,54 @@ public final class MinutesTest {
         }
         k.due("now(6)", k.x.now(6), -1);
         k.due("now(-1)", k.x.now(-1), -1);
+    }
+
+    /** Who sets out where it is bound is THERE in the MINUTE of its start, whoever stands there, and in nobody's way. */
+    private static void thereAtOnce() {
+        // a has no WAY and stands on 0 for good.
+        String wall = "land 2 2;wall 1 0;chair a 0 0 0 0 1 1;wall 1 1;";
+        Check k = new Check("6, 11", wall + "chair b 0 0 0 0 0 0;chair c 0 0 9 9 0 1;chair d 0 0 0 0 0 0;start d 5;");
+        k.due("when(1)", k.x.when(1), 0);
+        k.due("when(2)", k.x.when(2), 500);
+        k.due("when(3)", k.x.when(3), 5);
+        k.x.on(1);
+        k.dueChair(1, 9, 0);
+        k.dueChair(1, 0, -1);
+        k.dueChair(1, 6, 0);
+        k.dueChair(2, 0, -1);
+        k.dueChair(2, 9, -1);
+        k.dueCell(0, 4, 1);
+        k.dueNow(1, 1, 1, 0, 0, 1);
+        k.x.on(4);
+        k.dueChair(3, 9, -1);
+        k.x.on(1);
+        k.dueChair(3, 9, 5);
+        k.dueNow(6, 1, 2, 0, 0, 6);
+        // b takes no ROOM from a, which comes out behind it.
+        k = new Check("6, 11", "land 2 2;chair b 0 0 0 0 0 0;chair a 0 0 0 0 1 0;");
+        k.x.on(1);
+        k.dueChair(0, 9, 0);
+        k.dueChair(1, 9, 0);
+        k.due("last()", k.x.last(), -1);
+    }
+
+    /** Who of two is later is said by the order in which the MINUTE began, not by STEPS come in it. */
+    private static void laterOfTwo() {
+        String three = "land 3 2;wide 1 0;wall 0 1;law come;chair a 1 0 0 0 ";
+        // a has no WAY; b steps to it; c looks at b, which would step to where c is.
+        Check k = new Check("12, 13", three + "1 1;chair b 0 0 0 0 2 0;chair c 2 0 0 0 0 0;wall 1 1;");
+        k.dueOrder(0, 1, 2);
+        k.x.on(1);
+        k.dueNow(1, 3, 0, 1, 0, 2);
+        k.dueMet(0, 0, 2, 1, 1, 0);
+        k.dueOrder(1, 0, 2);
+        // a meets c; b steps to a, bound for the CELL below; c looks at b, which it does not meet.
+        k = new Check("12, 13", three + "2 0;chair b 0 0 0 0 1 1;chair c 2 0 0 0 0 0;");
+        k.x.on(1);
+        k.dueCell(1, 4, 2);
+        k.dueNow(1, 3, 0, 1, 0, 2);
+        k.dueMet(0, 0, 0, 2, 2, 0);
+        k.dueMet(1, -1);
     }
 
     /** b pushes a back, then stands before it, for a has come from nowhere. */

@@ -528,7 +528,7 @@ final class Model {
             case "come": return m.steps;
             case "backs": return m.pushed;
             case "waits": return m.waited;
-            default: return m.at;
+            default: return c;
         }
     }
 
@@ -664,16 +664,19 @@ final class Model {
         for (int c = 0; c < n.movers.size(); c++) {
             Mover m = n.movers.get(c);
             Chair chair = alleys.chairs.get(c);
-            if (m.start <= n.minute && m.at == NONE && m.there == NONE && room(n, chair.setsOut)) {
+            if (m.start > n.minute || m.at != NONE || m.there != NONE) {
+                continue;
+            }
+            if (chair.setsOut == chair.bound) {
+                gone(n, c);
+            } else if (room(n, chair.setsOut)) {
                 m.at = chair.setsOut;
                 m.from = NONE;
-                if (chair.setsOut == chair.bound) {
-                    gone(n, c);
-                }
             }
         }
         Set<Integer> pushed = new HashSet<>();
-        for (int c : orderOf(n)) {
+        List<Integer> order = orderOf(n);
+        for (int c : order) {
             Mover m = n.movers.get(c);
             if (m.at == NONE || m.there != NONE || pushed.contains(c)) {
                 continue;
@@ -689,11 +692,11 @@ final class Model {
             if (!room(n, to)) {
                 List<Integer> others = on(n, to);
                 int d = others.get(0);
-                if (others.size() > 1 && ahead(n, d, others.get(1))) {
+                if (others.size() > 1 && order.indexOf(d) < order.indexOf(others.get(1))) {
                     d = others.get(1);
                 }
                 Mover o = n.movers.get(d);
-                if (!ahead(n, c, d) || pushed.contains(d) || o.from == NONE || !room(n, o.from)) {
+                if (order.indexOf(c) > order.indexOf(d) || pushed.contains(d) || o.from == NONE || !room(n, o.from)) {
                     m.waited++;
                     if (nextOf(n, d) == m.at) {
                         n.meetings.add(new int[] {n.minute, c, d, to, 0});
