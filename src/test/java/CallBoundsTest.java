@@ -26,6 +26,8 @@ public final class CallBoundsTest {
         lanesBeyondThoseOfATextAreFree();
         untiedCells();
         untiedChairs();
+        untiedWide();
+        untiedByTheFirstCell();
         step();
         oneWay();
         oneWayAtTheCorners();
@@ -33,11 +35,15 @@ public final class CallBoundsTest {
         invitedSpans();
         invitedChairs();
         invitedRows();
+        invitedThatTheFirstComesLater();
         began();
+        beganByStartsDrawn();
         lent();
         torches();
         torchesOneAlone();
+        torchesOneThatIsPushed();
         voted();
+        votedSooner();
         when();
         latest();
         drawn();
@@ -49,6 +55,7 @@ public final class CallBoundsTest {
         said();
         images();
         imagesStay();
+        actsBehindRestore();
         count();
         manyCalls();
         Check.close("CallBoundsTest");
@@ -437,6 +444,64 @@ public final class CallBoundsTest {
         k.due("untied() of 3 out", k.x.untied(), 3);
     }
 
+    /** "ROOM as above": a second one on a wide CELL, a third one not. */
+    private static void untiedWide() {
+        String two = "land 2 2;%swall 0 1;wall 1 1;chair a 0 0 0 0 1 0;chair b 1 0 0 0 0 0;";
+        Check k = new Check("16, 17", String.format(two, ""));
+        k.x.on(1);
+        k.due("now(1)", k.x.now(1), 2);
+        k.due("untied(), no CELL is wide", k.x.untied(), -1);
+        k = new Check("16, 17", String.format(two, "lane 0 0 n;lane 1 0 n;wide 0 0;"));
+        k.x.on(1);
+        k.x.lane(0, -1);
+        k.x.lane(1, -1);
+        k.due("untied(), b comes to a's CELL", k.x.untied(), 2);
+        k.due("step(0)", k.x.step(0), 7);
+        k.due("step(1)", k.x.step(1), 1);
+        // c would be the third one there.
+        k = new Check("16, 17", "land 2 2;wide 0 0;wall 0 1;wall 1 1;chair a 0 0 0 0 1 0;chair b 0 0 0 0 1 0;chair c 1 0 0 0 0 0;");
+        k.x.on(1);
+        k.due("now(1)", k.x.now(1), 3);
+        k.dueCell(0, 4, 2);
+        k.due("untied(), three", k.x.untied(), -1);
+        // They pass on a wide CELL in the midst of a narrow alley.
+        k = new Check("16, 17", NARROW + "wide 2 0;chair a 0 0 0 0 4 0;chair b 4 0 0 0 0 0;");
+        k.x.on(1);
+        k.due("untied()", k.x.untied(), 6);
+        int[] due = {1, 7, 1, 1, 7, 7};
+        for (int i = 0; i < 7; i++) {
+            k.due("step(" + i + ")", k.x.step(i), i < 6 ? due[i] : -1);
+        }
+        k.plan("a e;b w;a e;a e;b w;b w;");
+        k.due("judge(0) of these STEPS", k.x.judge(0), -1);
+        k.due("judged(2)", k.x.judged(2), 2);
+    }
+
+    /** CELL 0 is one like others, and what was asked once may be asked again. */
+    private static void untiedByTheFirstCell() {
+        Check k = new Check("16, 17", "land 2 3;wall 1 1;chair a 0 2 0 0 1 0;");
+        k.x.on(1);
+        k.dueChair(0, 0, 10);
+        for (int i = 0; i < 3; i++) {
+            k.due("untied()", k.x.untied(), 2);
+            k.due("step(0)", k.x.step(0), 0);
+            k.due("step(1)", k.x.step(1), 1);
+        }
+        k = new Check("16, 17", "land 2 2;chair a 1 0 0 0 0 1;lane 1 0 n;");
+        k.x.on(1);
+        k.due("untied(), by a lane that leads nowhere", k.x.untied(), -1);
+        k.x.lane(1, -1);
+        for (int i = 0; i < 3; i++) {
+            k.due("untied()", k.x.untied(), 2);
+            k.due("step(0), s is ahead of w", k.x.step(0), 2);
+            k.due("step(1)", k.x.step(1), 3);
+        }
+        k.x.lane(1, 3);
+        k.due("untied()", k.x.untied(), 2);
+        k.due("step(0)", k.x.step(0), 3);
+        k.due("step(1)", k.x.step(1), 2);
+    }
+
     /** Promise 17: "NONE: none such, or ahead of any". */
     private static void step() {
         Check k = new Check("17", NICHE + "chair a 0 0 3 1 4 0;chair b 4 0 5 2 0 0;law rank;");
@@ -558,6 +623,27 @@ public final class CallBoundsTest {
         k.due("invited(1)", k.x.invited(1), 3);
     }
 
+    /** b goes into a niche beside a: whenever it comes, it is no use that it comes later, and a must. */
+    private static void invitedThatTheFirstComesLater() {
+        String beside = "land 6 2;wall 0 1;wall 2 1;wall 3 1;wall 4 1;wall 5 1;chair a 0 0 %d 0 5 0;chair b 5 0 %d 0 1 1;"
+            + "law rank;";
+        Check k = new Check("20", NICHE + "chair a 0 0 0 0 4 0;chair b 4 0 0 0 2 1;");
+        k.due("invited(1), a 2 times", k.x.invited(1), 2 * 4);
+        k.due("invited(2), b 2 times", k.x.invited(2), 2);
+        k.alleys(String.format(beside, 0, 1));
+        k.due("invited(1), a 3 times", k.x.invited(1), 3 * 4);
+        // If a goes ahead of b, it would have to come later still.
+        k.alleys(String.format(beside, 1, 0));
+        k.due("invited(1), a would have to be 4 times", k.x.invited(1), -1);
+        // Starts that were told before, or drawn, are of no use here.
+        k.alleys(String.format(beside, 0, 1) + "start a 50;start b 7;");
+        k.due("invited(1), starts told", k.x.invited(1), 3 * 4);
+        k.x.drawn(3);
+        k.due("invited(1), starts drawn", k.x.invited(1), 3 * 4);
+        k.alleys(String.format(beside, 0, 1) + "chair c 0 0 0 0 0 0;chair d 0 0 0 0 0 0;");
+        k.due("invited(1), in the highest place of four", k.x.invited(1), 3 * 64);
+    }
+
     /** Promise 21: a bit for each CHAIR, the eighth, too. */
     private static void began() {
         for (int count = 0; count <= 8; count++) {
@@ -575,6 +661,23 @@ public final class CallBoundsTest {
         }
         Check k = new Check("21", text + "wall 6 1;wall 7 1;wall 8 1;chair a 0 0 0 0 8 0;chair b 8 0 0 0 0 0;");
         k.due("began()", k.x.began(), 128 + 64);
+    }
+
+    /** "from the beginning": with the starts of now, and whatever went by. */
+    private static void beganByStartsDrawn() {
+        // Without c, which minds nobody, there is a MEETING all the same, if there is one with it.
+        Check k = new Check("21", RING + "chair c 0 2 0 0 0 2;");
+        k.due("began()", k.x.began(), 3);
+        int meeting = 0;
+        for (int seed = 0; seed < 30; seed++) {
+            k.x.drawn(seed);
+            int odds = k.x.odds(1, seed);
+            meeting += odds;
+            k.due("began() by seed " + seed, k.x.began(), odds == 1 ? 3 : 7);
+            k.x.on(7);
+            k.due("began() by seed " + seed + ", later", k.x.began(), odds == 1 ? 3 : 7);
+        }
+        k.due("some meet, and not all", meeting > 0 && meeting < 30, true);
     }
 
     /** Promise 22: "NONE - 1000: no such ones, it is THERE". */
@@ -649,6 +752,23 @@ public final class CallBoundsTest {
         }
     }
 
+    /** "(not stepping by themselves": who waits may be pushed, and then a has no use of waiting as long. */
+    private static void torchesOneThatIsPushed() {
+        Check k = new Check("23", NARROW + "chair a 0 0 9 0 3 0;chair b 4 0 0 0 0 0;law rank;");
+        k.x.on(2);
+        k.dueChair(0, 0, 2);
+        k.dueChair(1, 0, 3);
+        // b has no WAY from now on: it is the same to it whether it waits.
+        k.x.lane(3, 1);
+        for (int n = 1; n <= 20; n++) {
+            k.due("torches(0, 1, " + n + ", -1)", k.x.torches(0, 1, n, -1), 2);
+            k.due("torches(0, 1, " + n + ", 0)", k.x.torches(0, 1, n, 0), 0);
+            k.due("torches(0, 1, " + n + ", 1)", k.x.torches(0, 1, n, 1), 1);
+            k.due("torches(0, 1, " + n + ", 2)", k.x.torches(0, 1, n, 2), -1);
+            k.due("torches(1, 0, " + n + ", 1)", k.x.torches(1, 0, n, 1), 2);
+        }
+    }
+
     /** Promise 24: "1: more are for it, 0: not; NONE: no such one". */
     private static void voted() {
         String block = NICHE.replace("wall 1 1;", "") + "%schair b 2 0 0 0 1 1;wall 1 1;";
@@ -668,6 +788,29 @@ public final class CallBoundsTest {
                 k.due("voted(" + far + ")", k.x.voted(far), -1);
             }
         }
+    }
+
+    /** "if it would be THERE sooner": by one MINUTE, that is; who would be THERE all the same is not for it. */
+    private static void votedSooner() {
+        Check k = new Check("24", "land 4 3;chair a 0 0 0 0 3 0;chair b 0 1 0 0 3 1;chair c 0 2 0 0 3 2;");
+        k.x.on(1);
+        for (int c = 0; c < 3; c++) {
+            k.due("voted(" + c + "), who minds nobody", k.x.voted(c), 0);
+        }
+        // b comes out of a niche ahead of c and a: each of them waits for one MINUTE.
+        String joint = "land 7 3;wall 0 1;wall 1 1;wall 2 1;wall 4 1;wall 5 1;wall 6 1;%s"
+            + "chair a 0 0 0 0 6 0;chair b 3 2 9 0 6 0;chair c 1 0 5 0 6 0;law rank;";
+        k = new Check("24", String.format(joint, ""));
+        k.x.on(1);
+        k.due("when(2)", k.x.when(2), 5);
+        k.due("voted(1), two of three", k.x.voted(1), 1);
+        k.due("voted(2), one of three", k.x.voted(2), 0);
+        k.due("voted(0), none of three", k.x.voted(0), 0);
+        // One that is THERE is nobody's loss.
+        k = new Check("24", "land 4 3;chair a 0 0 0 0 0 0;chair b 0 1 0 0 3 1;chair c 0 2 0 0 3 2;");
+        k.x.on(1);
+        k.due("now(2)", k.x.now(2), 1);
+        k.due("voted(0), THERE", k.x.voted(0), 0);
     }
 
     /** Promise 25: "NONE: no such one, it is THERE". */
@@ -928,6 +1071,31 @@ public final class CallBoundsTest {
         k.due("now(0)", k.x.now(0), 2);
         k.x.restore(0);
         k.due("now(0)", k.x.now(0), 3);
+    }
+
+    /** "nothing can be undone": but what is done from then on can. */
+    private static void actsBehindRestore() {
+        Check k = new Check("14, 35", KNOT);
+        k.x.on(1);
+        k.x.image(0);
+        for (int i = 0; i < 9; i++) {
+            k.x.on(2);
+        }
+        k.due("restore(0)", k.x.restore(0), true);
+        k.due("undo()", k.x.undo(), -1);
+        for (int i = 1; i <= 9; i++) {
+            k.due("on(3)", k.x.on(3), 3);
+        }
+        for (int i = 7; i >= 0; i--) {
+            k.due("undo()", k.x.undo(), i);
+        }
+        k.due("undo()", k.x.undo(), -1);
+        k.due("now(0)", k.x.now(0), 4);
+        // A restore() that is refused leaves what can be undone.
+        k.x.on(1);
+        k.due("restore(1)", k.x.restore(1), false);
+        k.due("undo()", k.x.undo(), 0);
+        k.due("now(0)", k.x.now(0), 4);
     }
 
     /** Promise 36: "NONE for another what." */

@@ -10,6 +10,8 @@ public final class MinuteBoundsTest {
         roomForTwo();
         roomForOneThatSteps();
         roomForOneThatIsPushed();
+        fromNowhereWithAllOut();
+        stairsAndPlans();
         restsForOneMinute();
         firstOfLikeOnes();
         onTillTheLastMinute();
@@ -148,6 +150,45 @@ public final class MinuteBoundsTest {
         k.dueCell(12, 4, 2);
         // It has come from nowhere then: a second one can't push it.
         k.dueChair(1, 7, 1);
+    }
+
+    /** Who has come from nowhere can't be pushed there: with eight CHAIRS out, too. */
+    private static void fromNowhereWithAllOut() {
+        for (int count = 2; count <= 8; count++) {
+            StringBuilder text = new StringBuilder("land 9 2;chair a 0 0 9 0 2 0;chair b 1 0 0 0 8 1;");
+            for (int c = 2; c < count; c++) {
+                text.append("chair q").append((char) ('a' + c)).append(' ').append(c + 1).append(" 0 0 0 8 1;");
+            }
+            Check k = new Check("11", text + "wall 8 1;law rank;");
+            k.x.on(5);
+            k.dueNow(5, count, 0, 0, 0, 5 * count);
+            k.dueChair(0, 0, 0);
+            k.dueChair(1, 0, 1);
+            k.dueChair(1, 7, 0);
+        }
+    }
+
+    /** A STEP of a PLAN is in no MINUTE: it brings no rest, and takes none away. */
+    private static void stairsAndPlans() {
+        Check k = new Check("11, 30", NARROW + "stairs 2 0;chair a 0 0 0 0 4 0;");
+        k.x.on(1);
+        k.plan("a e;");
+        k.due("judge(1), to the stairs", k.x.judge(1), -1);
+        k.dueChair(0, 0, 2);
+        k.x.on(1);
+        k.dueChair(0, 0, 3);
+        k.x.on(1);
+        k.dueChair(0, 9, 2);
+        k = new Check("11, 30", NARROW + "stairs 1 0;chair a 0 0 0 0 4 0;");
+        k.x.on(1);
+        k.plan("a e;");
+        k.due("judge(1), from the stairs", k.x.judge(1), -1);
+        k.dueChair(0, 0, 2);
+        k.x.on(1);
+        k.dueChair(0, 0, 2);
+        k.dueChair(0, 8, 0);
+        k.x.on(1);
+        k.dueChair(0, 0, 3);
     }
 
     /** "one that came to stairs in the MINUTE ahead .. rests": for one MINUTE, and what rests does not wait. */

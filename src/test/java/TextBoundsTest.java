@@ -16,6 +16,13 @@ public final class TextBoundsTest {
         lengthsOfWords();
         lengthsOfNumbers();
         tokensThatTouch();
+        bytesBehindTheEnd();
+        wordsThatBeginALine();
+        wordsThatNoChairBears();
+        namesBesideThoseWords();
+        wordsThatAreDirs();
+        wordsThatAreWays();
+        wordsOfASentence();
         sizesOfTheLand();
         landAheadOfCells();
         cellsOfTheLand();
@@ -43,6 +50,9 @@ public final class TextBoundsTest {
         endsOfSentence();
         numbersOfSentence();
         emptyTexts();
+        earlierAlleysAreForgotten();
+        earlierPlansAreForgotten();
+        earlierSentencesAreForgotten();
         Check.close("TextBoundsTest");
     }
 
@@ -251,10 +261,147 @@ public final class TextBoundsTest {
         fault(LAND + "chair @a1 0 0 1 1 2 2;", 1);
         fault(LAND + "chair @1a 0 0 1 1 2 2;", 1);
         fault(LAND + "lane 0 @0n;", 1);
+        fault("law rank @x9;", 1);
+        fault("law rank @9x;", 1);
+        fault("law rank @xx9;", 1);
+        faultOfSentence("(sick @x9)", 1);
         faultOfSentence("@rank1", 1);
         faultOfSentence("rank=@1or sick", 1);
         faultOfSentence("@notsick", 1);
         goodSentence("not(sick)or(rank=1)and not(rank<1)", 8);
+    }
+
+    /** What is behind the first n bytes is no part of the text, even if a TOKEN could go on there. */
+    private static void bytesBehindTheEnd() {
+        String text = "land 3 3;wall 2 1;chair ab 0 0 10 0 2 2;";
+        for (int n = 0; n <= text.length(); n++) {
+            Check whole = new Check("3, 4");
+            whole.write(text);
+            whole.x.end(n);
+            Check cut = new Check("3, 4");
+            cut.due("alleys() of " + n + " bytes of more", whole.x.alleys(), cut.alleys(text.substring(0, n)));
+            cut.due("fault() of " + n + " bytes of more", whole.x.fault(), cut.x.fault());
+        }
+        dueCut("land 3 3;land", 9, 1, 0);
+        dueCut("lands", 4, -5, 1);
+        dueCut("land", 3, -1, 1);
+        dueCut("land 3 33;", 8, -9, 1);
+        dueCut("land 3 11;", 8, -8, 2);
+        dueCut("law rank;", 8, -9, 1);
+        dueCut("law ranks;", 8, -9, 1);
+        // Bytes of an earlier text are none of this one's.
+        Check k = new Check("3, 4");
+        k.write("abcdefgh".repeat(40));
+        k.x.alleys();
+        k.due("count(8)", k.x.count(8), 0);
+        k.due("alleys() of an empty tape", k.x.alleys(), 0);
+        k.due("alleys() of a shorter text", k.alleys(LAND), 1);
+        k.write("sickness there or not");
+        k.x.end(4);
+        k.due("sentence() of its first four bytes", k.x.sentence(), 1);
+    }
+
+    private static void dueCut(String text, int n, int answer, int kind) {
+        Check k = new Check("3, 4");
+        k.write(text);
+        k.due("end(" + n + ")", k.x.end(n), true);
+        k.due("alleys() of " + n + " bytes of '" + text + "'", k.x.alleys(), answer);
+        k.due("fault()", k.x.fault(), kind);
+    }
+
+    private static final String[] WORDS = {"land", "wall", "stairs", "wide", "lane", "chair", "start", "sick", "law", "rank",
+        "load", "come", "n", "e", "s", "w", "or", "and", "not", "there", "ahead", "backs", "waits", "place"};
+
+    private static boolean isOneOf(String word, String... words) {
+        return java.util.Arrays.asList(words).contains(word);
+    }
+
+    private static void wordsThatBeginALine() {
+        for (String word : WORDS) {
+            boolean begins = isOneOf(word, "wall", "stairs", "wide", "lane", "chair", "start", "sick", "law");
+            fault(LAND + (word.equals("land") ? "@land" : begins ? word + "@" : "@" + word), word.equals("land") ? 3 : 1);
+            fault(begins || word.equals("land") ? word + "@" : "@" + word + " 0 0;", 1);
+        }
+        fault(CHAIR + "@a n;", 1);
+    }
+
+    /** "NAME: a WORD, none of those told here, in a PLAN or a SENTENCE". */
+    private static void wordsThatNoChairBears() {
+        for (String word : WORDS) {
+            fault(LAND + "chair @" + word + " 0 0 1 1 2 2;", 1);
+            fault(CHAIR + "start @" + word + " 1;", 1);
+            fault(CHAIR + "sick @" + word + ";", 1);
+            faultOfPlan("@" + word + " n;", 1);
+            faultOfSentence("ahead @" + word, 1);
+        }
+    }
+
+    /** A letter more or less than those: all these are NAMES. */
+    private static void namesBesideThoseWords() {
+        for (String word : WORDS) {
+            for (String name : new String[] {word + "s", "a" + word, word.substring(1), word.substring(0, word.length() - 1)}) {
+                if (!name.isEmpty() && !isOneOf(name, WORDS)) {
+                    Check k = new Check("4, 29, 32");
+                    k.due("alleys() of " + name, k.alleys(LAND + "chair " + name + " 0 0 1 1 2 2;sick " + name + ";"), 3);
+                    k.due("plan() of " + name, k.plan(name + " n;"), 1);
+                    k.due("sentence() of " + name, k.sentence("ahead " + name), 1);
+                }
+            }
+        }
+    }
+
+    /** "DIR: 'n' | 'e' | 's' | 'w'". */
+    private static void wordsThatAreDirs() {
+        for (String word : WORDS) {
+            int dir = java.util.Arrays.asList("n", "e", "s", "w").indexOf(word);
+            if (dir >= 0) {
+                Check k = new Check("4, 7", LAND + "lane 1 1 " + word + ";");
+                k.dueCell(11, 3, dir);
+                goodPlan("a " + word + ";", 1);
+            } else {
+                fault(LAND + "lane 1 1 @" + word + ";", 1);
+                faultOfPlan("a @" + word + ";", 1);
+            }
+        }
+        fault(CHAIR + "lane 1 1 @a;", 1);
+        fault(LAND + "lane 1 1 @0;", 1);
+        fault(LAND + "lane 1 1@;", 1);
+        faultOfPlan("a @a;", 1);
+        faultOfPlan("a @0;", 1);
+        faultOfPlan("a@;", 1);
+    }
+
+    /** "WAY: 'rank' | 'load' | 'come'". */
+    private static void wordsThatAreWays() {
+        for (String word : WORDS) {
+            if (isOneOf(word, "rank", "load", "come")) {
+                good("law " + word + ";", 1);
+            } else {
+                fault("law @" + word + ";", 1);
+                fault("law rank @" + word + ";", 1);
+                fault("law rank load come @" + word + ";", 1);
+            }
+        }
+    }
+
+    private static void wordsOfASentence() {
+        for (String word : WORDS) {
+            boolean whole = isOneOf(word, "sick", "there");
+            boolean more = isOneOf(word, "not", "ahead", "rank", "load", "come", "backs", "waits", "place");
+            if (whole) {
+                goodSentence(word, 1);
+            } else {
+                faultOfSentence(more ? word + "@" : "@" + word, 1);
+                faultOfSentence(more ? "not " + word + "@" : "not @" + word, 1);
+                faultOfSentence(more ? "(" + word + "@" : "(@" + word, 1);
+            }
+            boolean joint = isOneOf(word, "or", "and");
+            faultOfSentence(joint ? "sick " + word + "@" : "sick @" + word, 1);
+            faultOfSentence(joint ? "rank=1 " + word + " @)" : "rank=1 @" + word + " sick", 1);
+        }
+        faultOfSentence("@a", 1);
+        faultOfSentence("sick @a", 1);
+        faultOfSentence("not @a", 1);
     }
 
     /** "'land' W H (2 to 10 both; once". */
@@ -770,5 +917,90 @@ public final class TextBoundsTest {
         }
         k.dueChair(0, 0, Check.THROWN);
         k.dueCell(0, 0, Check.THROWN);
+    }
+
+    private static int[] seenOfAlleys(Check k, String text) {
+        int[] seen = new int[2 + 9 + 80 + 36];
+        int n = 0;
+        seen[n++] = k.alleys(text);
+        seen[n++] = k.x.fault();
+        for (int what = 0; what < 9; what++) {
+            seen[n++] = k.x.count(what);
+        }
+        for (int c = 0; c < 8; c++) {
+            for (int what = 0; what < 10; what++) {
+                seen[n++] = k.chair(c, what);
+            }
+        }
+        for (int at = 0; at < 9; at++) {
+            for (int what = 0; what < 4; what++) {
+                seen[n++] = k.cell(at / 3 * 10 + at % 3, what);
+            }
+        }
+        return seen;
+    }
+
+    /** What a text told is gone with the next one, whether it was taken or had a FAULT. */
+    private static void earlierAlleysAreForgotten() {
+        String full = LAND + "wall 1 1;stairs 0 1;wide 0 2;lane 1 0 e;chair a 0 0 9 8 2 2;chair b 2 0 7 6 0 2;start a 9;start b 8;"
+            + "sick a;sick b;law rank load come;";
+        String[] texts = {full, full.replace("law rank load come", "law come load rank"), "land 2 2;", "law rank load;", "",
+            LAND + "chair b 1 1 0 0 1 1;", chairs(8), "land 10 10;" + many("wall", 0, 40, ""), full + "?",
+            chairs(8) + "chair z", "law rank load come;law", full + "start a 3;", LAND + "lane 1 0 x;", "wall 0 0;"};
+        for (String earlier : texts) {
+            for (String text : texts) {
+                Check k = new Check("4");
+                k.alleys(earlier);
+                int[] got = seenOfAlleys(k, text);
+                if (k.x.fault() == 0) {
+                    k.due("'" + text + "' behind '" + earlier + "'", java.util.Arrays.equals(got,
+                        seenOfAlleys(new Check("4"), text)), true);
+                } else {
+                    Check alone = new Check("4");
+                    k.due("'" + text + "' behind '" + earlier + "'", got[0], alone.alleys(text));
+                    k.due("its FAULT", got[1], alone.x.fault());
+                }
+            }
+        }
+    }
+
+    private static void earlierPlansAreForgotten() {
+        Check k = new Check("29 to 31", LAND + "lane 1 1 n;chair a 0 1 0 0 2 1;lane 0 1 e;");
+        k.x.on(1);
+        k.x.lane(11, -1);
+        k.due("plan()", k.plan("a n;a s;a n;a s;a n;"), 5);
+        k.due("judge(0)", k.x.judge(0), -1);
+        k.due("judged(1)", k.x.judged(1), 5);
+        for (int n = 4; n >= 0; n--) {
+            k.due("plan()", k.plan("a n;a s;a n;a s;".substring(0, 4 * n)), n);
+            k.due("judge(0)", k.x.judge(0), -1);
+            k.due("judged(1)", k.x.judged(1), n);
+        }
+        // One with a FAULT behind some good STEPS leaves the one that was.
+        k.due("plan()", k.plan("a n;a s;"), 2);
+        k.due("plan() with a FAULT", k.plan("a w;a w;a w;?"), -13);
+        k.due("judge(0)", k.x.judge(0), -1);
+        k.due("judged(1)", k.x.judged(1), 2);
+    }
+
+    private static void earlierSentencesAreForgotten() {
+        String[] texts = {"there or sick or rank=1 and load=1", "rank=1", "not rank=1", "rank=2 or rank=1", "not not rank=1",
+            "(rank=1)and(load=1)", "sick", "not there and not sick", "load=1 and(there or rank=1)"};
+        for (String earlier : texts) {
+            for (String text : texts) {
+                Check k = new Check("32, 33", CHAIR);
+                k.sentence(earlier);
+                k.sentence(text);
+                Check alone = new Check("32, 33", CHAIR);
+                alone.sentence(text);
+                k.due("said(-1) of '" + text + "' behind '" + earlier + "'", k.x.said(-1), alone.x.said(-1));
+                k.sentence(earlier + " or ?");
+                k.due("said(-1) of '" + text + "' behind a FAULT", k.x.said(-1), alone.x.said(-1));
+            }
+        }
+        Check k = new Check("32, 33", CHAIR);
+        dueSaid(k, "rank=1", 1);
+        dueSaid(k, "rank=2", 0);
+        dueSaid(k, "load=1", 1);
     }
 }
