@@ -35,6 +35,47 @@ final class Texts {
     }
 
     String alleys() {
+        return below(3) == 0 ? knot() : land();
+    }
+
+    /** An alley with niches, through which CHAIRS of several ranks go both ways, so that they meet. */
+    private String knot() {
+        StringBuilder sb = new StringBuilder();
+        w = 4 + below(4);
+        h = 3;
+        sb.append("land ").append(w).append(" 3;law ").append(below(2) == 0 ? "rank" : "rank come").append(";");
+        boolean[] open = new boolean[100];
+        for (int x = 0; x < w; x++) {
+            open[10 + x] = true;
+            for (int y = 0; y < 3; y += 2) {
+                open[10 * y + x] = below(4) == 0;
+                if (!open[10 * y + x]) {
+                    sb.append("wall ").append(x).append(" ").append(y).append(";");
+                }
+            }
+        }
+        chairs = 2 + below(3);
+        for (int c = 0; c < chairs; c++) {
+            int left = below(2);
+            int right = 10 + w - 1 - below(2);
+            int niche = 10 * below(3) + below(w);
+            int from = c % 2 == 0 ? 10 + left : right;
+            int to = c % 2 == 0 ? right : 10 + left;
+            from = open[niche] && below(3) == 0 ? niche : from;
+            sb.append("chair ").append(NAMES[c]).append(" ").append(from % 10).append(" ").append(from / 10)
+                .append(" ").append(below(4)).append(" ").append(below(3)).append(" ").append(to % 10).append(" ")
+                .append(to / 10).append(";");
+            if (below(2) == 0) {
+                sb.append("start ").append(NAMES[c]).append(" ").append(below(6)).append(";");
+            }
+        }
+        String[] sorts = {"wide", "wide", "stairs"};
+        String sort = sorts[below(3)];
+        sb.append(sort).append(" ").append(1 + below(w - 2)).append(" 1;");
+        return sb.toString();
+    }
+
+    private String land() {
         StringBuilder sb = new StringBuilder();
         boolean narrow = below(2) == 0;
         w = narrow ? 2 + below(5) : 2 + below(9);
