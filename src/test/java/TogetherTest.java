@@ -21,6 +21,7 @@ public final class TogetherTest {
             beganByTexts(text);
             lentByTexts(text);
             votedByTexts(text, seed);
+            votedByPlans(text, seed);
         }
         for (int seed = 0; seed < 200; seed++) {
             String text = new Texts(new Random(seed)).alleys();
@@ -269,6 +270,52 @@ public final class TogetherTest {
             }
             k.due("voted(" + c + ") of '" + text + "'", k.x.voted(c), votes > 0 ? 1 : 0);
         }
+    }
+
+    /** One that is out is gone from the land, too, if a PLAN brings it THERE; the others stay where they are. */
+    private static void votedByPlans(String text, int seed) {
+        for (int c = 0; c < begun("24", text, 0).x.count(2); c++) {
+            Check k = begun("24", text, 1 + seed % 6);
+            int chairs = k.x.count(2);
+            int voted = k.x.voted(c);
+            int[] with = new int[chairs];
+            for (int d = 0; d < chairs; d++) {
+                with[d] = k.x.when(d);
+            }
+            if (k.chair(c, 0) == -1 || k.plan(planAlone(k, text, c)) < 1 || k.x.judge(0) != -1) {
+                continue;
+            }
+            int votes = -1;
+            k.x.judge(1);
+            k.due("now a CHAIR is THERE", k.chair(c, 9) != -1, true);
+            for (int d = 0; d < chairs; d++) {
+                if (k.chair(d, 0) != -1) {
+                    votes += k.x.when(d) < with[d] ? 1 : -1;
+                }
+            }
+            k.due("voted(" + c + ") of '" + text + "'", voted, votes > 0 ? 1 : 0);
+        }
+    }
+
+    /** A PLAN by which a CHAIR goes its WAY, as if it were alone; of no STEP, if there is none. */
+    private static String planAlone(Check k, String text, int c) {
+        StringBuilder plan = new StringBuilder();
+        int bound = k.chair(c, 3);
+        int at = k.chair(c, 0);
+        int far = k.x.way(at, bound);
+        for (int left = far; left > 0 && left < 20; left--) {
+            int from = at;
+            for (int dir = 0; dir < 4 && at == from; dir++) {
+                int to = from + ASIDE[dir];
+                boolean isBeside = to >= 0 && to < 100 && (dir % 2 == 0 || to / 10 == from / 10);
+                boolean isOpen = isBeside && (k.cell(from, 3) == -1 || k.cell(from, 3) == dir);
+                if (isOpen && k.x.way(to, bound) == left - 1) {
+                    plan.append(nameOf(text, c)).append(' ').append(DIRS[dir]).append(';');
+                    at = to;
+                }
+            }
+        }
+        return plan.toString();
     }
 
     private static String withStarts(String text, int row, int chairs, int span) {
